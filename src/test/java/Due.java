@@ -39,6 +39,10 @@ final class Due {
         is(when + ": trace(" + want.length + ")", x.trace(want.length), ChairFront.NONE);
     }
 
+    int wrong() {
+        return wrong;
+    }
+
     void end() {
         String name = new Exception().getStackTrace()[1].getClassName();
         System.out.println(name + ": " + asked + " answers, " + wrong + " wrong");
