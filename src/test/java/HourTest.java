@@ -19,6 +19,10 @@ final class HourTest {
         brokenAreNotPaidBack();
         ticketsThatMoved();
         end();
+        ticketsThatEndWhileChairsBreak();
+        theLastChair();
+        fullShore();
+        fiveThousandHours();
         DUE.end();
     }
 
@@ -249,5 +253,62 @@ final class HourTest {
         DUE.ticket("an hour left", x, 2, 0, 4, 1, 480);
         DUE.is("the third ends", x.hour(0, 0, 0, 0), 0);
         DUE.count("all ended", x, 1, 8990, 10, 0, 0, 0, 3, 12, 560, 0);
+    }
+
+    private static void ticketsThatEndWhileChairsBreak() {
+        ChairFront x = shore(500);
+        for (int i = 0; i < 4; i++) {
+            x.hire(0, 100, 12);
+        }
+        x.hire(0, 98, 12);
+        x.hire(0, 1, 12);
+        x.hire(0, 1, 12);
+        DUE.is("five break: one, one, then three of the next", x.hour(0, 0, 0, 10), 5);
+        DUE.ticket("the next", x, 4, 0, 95, 11, 11760);
+        DUE.ticket("ended", x, 5, BAD, BAD, BAD, BAD);
+        DUE.ticket("ended", x, 6, BAD, BAD, BAD, BAD);
+        DUE.told("five broke", x, 0, 100, 0, 495, 0, 0);
+    }
+
+    private static void theLastChair() {
+        ChairFront x = shore(1);
+        for (int i = 0; i < 99; i++) {
+            x.hour(0, 0, 0, 10);
+        }
+        DUE.is("the only one", x.hire(0, 1, 12), 0);
+        DUE.told("990", x, 0, 100, 0, 1, 0, 990);
+        DUE.is("breaks, and its ticket ends", x.hour(0, 0, 0, 10), 0);
+        DUE.told("bare", x, 0, 100, 0, 0, 0, 0);
+        DUE.count("broken", x, 1, 8999, 0, 0, 1, 0, 1, 100, 120, 0);
+    }
+
+    /** Ten stretches, and 30 tickets that have all chairs of the last one. */
+    private static void fullShore() {
+        ChairFront x = shore(90, 90, 90, 90, 90);
+        for (int i = 5; i < 10; i++) {
+            x.stretch(500, 3);
+        }
+        x.carry(NONE, 9, 300);
+        for (int i = 0; i < 30; i++) {
+            x.hire(9, 10, 12);
+        }
+        DUE.is("three break", x.hour(0, 0, 0, 10), 30);
+        DUE.ticket("the greatest", x, 29, 9, 7, 11, 1200);
+        DUE.told("three broke", x, 9, 500, 3, 297, 0, 0);
+        DUE.is("all end", x.hour(0, 61, 0, 0), 0);
+        DUE.is("back for 297", x.count(9), 297 * 110);
+        DUE.is("the highest", x.hour(500, 0, 0, 0), 0);
+        DUE.count("the tide takes all", x, 10, 9000 - 450 - 300, 0, 450 + 297, 3);
+    }
+
+    /** More calls than are promised; that hours have an end is told all the same. */
+    private static void fiveThousandHours() {
+        ChairFront x = shore(1);
+        for (int i = 0; i < 5000; i++) {
+            x.hour(0, 0, 0, 0);
+        }
+        DUE.is("5000 went", x.hour(0, 0, 0, 0), ChairFront.STATE);
+        DUE.is("BAD ahead of STATE", x.hour(-1, 0, 0, 0), BAD);
+        DUE.is("5000", x.count(7), 5000);
     }
 }

@@ -92,6 +92,9 @@ final class RulesTest {
         faultAt("part 5;", 1, 0);
         faultAt("holds any;", 1, 0);
         faultAt("hol any;", 1, 0);
+        faultAt("bold any;", 1, 0);
+        faultAt("hold eny;", 1, 5);
+        faultAt("rain 5 cart 5;", 1, 7);
         faultAt("hold anyx;", 1, 5);
         faultAt("hold an;", 1, 5);
         faultAt("rain part 5;", 1, 5);
@@ -206,6 +209,8 @@ final class RulesTest {
         ChairFront x = new ChairFront(1000);
         x.stretch(10, 0);
         x.carry(NONE, 0, 1000);
+        Due.rules(x, "rent 9 part 100;");
+        DUE.is("no coin", x.rent(NONE), 0);
         Due.rules(x, "rent 1000 part 10;rent 99999 part 50;rain 1 part 50;");
         DUE.is("nothing came in", x.rent(NONE), 0);
         x.hire(0, 10, 10);

@@ -125,6 +125,10 @@ final class TicketTest {
         DUE.is("anywhere", x.shift(0, 0), 1);
         DUE.is("an empty text", x.rules(), 0);
         DUE.is("is as at first", x.shift(0, 1), STATE);
+        x.rules();
+        DUE.is("and so is another", x.shift(0, 1), STATE);
+        DUE.is("the last one told", Due.rules(x, "hold any;hold zone;hold place;"), 3);
+        DUE.is("its place alone", x.shift(0, 1), STATE);
         DUE.count("no coin for it", x, 3, 850, 150, 0, 0, 1, 1, 0, 200, 0);
     }
 
@@ -163,6 +167,9 @@ final class TicketTest {
         Due.rules(x, "hold zone;");
         DUE.is("not the zone where it is used", x.shift(0, 3), STATE);
         DUE.is("the zone where it was hired", x.shift(0, 1), 1);
+        x.hire(2, 5, 2);
+        DUE.is("hired in zone 1, not to zone 0", x.shift(1, 0), STATE);
+        DUE.is("hired in zone 1, to zone 1", x.shift(1, 3), 1);
     }
 
     private static void ticket() {
