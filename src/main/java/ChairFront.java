@@ -601,7 +601,7 @@ public final class ChairFront {
         }
     }
 
-    /** Reads the tape token by token; each reading method leaves behind what it read, or refuses. */
+    /** Reads the tape token by token: a method that reads goes past what it read, or refuses at the token it is on. */
     private static final class Reader {
         private static final int END = 0, NAME = 1, NUMBER = 2, SIGN = 3, NO_TOKEN = 4;
         private static final int MOST_LETTERS = 6;
@@ -613,6 +613,8 @@ public final class ChairFront {
         private int start;
         private int next;
         private int value;
+        private int bound;
+        private int part;
         int faultNumber;
         int faultPlace;
 
@@ -661,45 +663,42 @@ public final class ChairFront {
             if (rules.rainLines >= Rules.MOST_LINES) {
                 return refuse(ONE_LINE_TOO_MANY);
             }
-            advance();
-            if (!standsNumber(1, 60)) {
+            if (!readPart(1, 60)) {
                 return false;
             }
-            int from = value;
-            advance();
-            if (!readPart()) {
-                return false;
-            }
-            rules.addRain(from, value);
-            advance();
-            return readSign();
+            rules.addRain(bound, part);
+            return true;
         }
 
         private boolean readRent(Rules rules) {
             if (rules.rentLines >= Rules.MOST_LINES) {
                 return refuse(ONE_LINE_TOO_MANY);
             }
-            advance();
-            if (!standsNumber(rules.leastNextEnd(), Rules.MOST_END)) {
+            if (!readPart(rules.leastNextEnd(), Rules.MOST_END)) {
                 return false;
             }
-            int end = value;
-            advance();
-            if (!readPart()) {
-                return false;
-            }
-            rules.addRent(end, value);
-            advance();
-            return readSign();
+            rules.addRent(bound, part);
+            return true;
         }
 
-        /** Stays on the number, whose value is the part. */
-        private boolean readPart() {
+        /** What stands behind the word of a rain or rent line, the same for both but for the bound's limits. */
+        private boolean readPart(int least, int most) {
+            advance();
+            if (!standsNumber(least, most)) {
+                return false;
+            }
+            bound = value;
+            advance();
             if (!isWord("part")) {
                 return refuse(MISPLACED);
             }
             advance();
-            return standsNumber(0, 100);
+            if (!standsNumber(0, 100)) {
+                return false;
+            }
+            part = value;
+            advance();
+            return readSign();
         }
 
         private boolean standsNumber(int least, int most) {
