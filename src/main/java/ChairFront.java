@@ -626,11 +626,16 @@ public final class ChairFront {
                 if (!readLine(rules)) {
                     return false;
                 }
+                if (token != SIGN) {
+                    return refuse(MISPLACED);
+                }
+                advance();
                 rules.lines++;
             }
             return true;
         }
 
+        /** A line but for its sign: all lines end alike. */
         private boolean readLine(Rules rules) {
             if (isWord("hold")) {
                 return readHold(rules);
@@ -656,7 +661,7 @@ public final class ChairFront {
                 return refuse(MISPLACED);
             }
             advance();
-            return readSign();
+            return true;
         }
 
         private boolean readRain(Rules rules) {
@@ -698,7 +703,7 @@ public final class ChairFront {
             }
             part = value;
             advance();
-            return readSign();
+            return true;
         }
 
         private boolean standsNumber(int least, int most) {
@@ -706,14 +711,6 @@ public final class ChairFront {
                 return refuse(MISPLACED);
             }
             return within(value, least, most) || refuse(NOT_AS_TOLD);
-        }
-
-        private boolean readSign() {
-            if (token != SIGN) {
-                return refuse(MISPLACED);
-            }
-            advance();
-            return true;
         }
 
         private boolean refuse(int number) {
@@ -779,11 +776,11 @@ public final class ChairFront {
         }
 
         private static boolean isLetter(int sign) {
-            return within(sign, 'a', 'z');
+            return sign >= 'a' && sign <= 'z';
         }
 
         private static boolean isFigure(int sign) {
-            return within(sign, '0', '9');
+            return sign >= '0' && sign <= '9';
         }
     }
 
