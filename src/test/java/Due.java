@@ -4,12 +4,18 @@ import java.nio.charset.StandardCharsets;
 final class Due {
     private int asked;
     private int wrong;
+    private String sentence = "";
+
+    /** The document's sentence that the next answers are due by. */
+    void says(String words) {
+        sentence = "[" + words + "] ";
+    }
 
     void is(String call, int got, int want) {
         asked++;
         if (got != want) {
             wrong++;
-            System.out.println(call + " answered " + got + ", due is " + want);
+            System.out.println(sentence + call + " answered " + got + ", due is " + want);
         }
     }
 
