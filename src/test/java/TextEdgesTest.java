@@ -29,6 +29,7 @@ final class TextEdgesTest {
         everyByteWithinALine();
         holdWords();
         lineWords();
+        everyLetterOfAWord();
         rainMinutes();
         rainPart();
         rentEnds();
@@ -333,6 +334,20 @@ final class TextEdgesTest {
                     faultAt(ahead, 1, ahead.length());
                 }
                 text = ahead + token + " ";
+            }
+        }
+    }
+
+    private static void everyLetterOfAWord() {
+        DUE.says("1 it cannot stand there (a word that differs by a letter)");
+        String[][] texts = {{"", "hold", " any;"}, {"hold ", "zone", ";"}, {"hold ", "any", ";"}, {"hold ", "place", ";"},
+            {"", "rain", " 5 part 5;"}, {"rain 5 ", "part", " 5;"}, {"", "rent", " 5 part 5;"}, {"rent 5 ", "part", " 5;"}};
+        for (String[] t : texts) {
+            reads(t[0] + t[1] + t[2], 1);
+            for (int i = 0; i < t[1].length(); i++) {
+                char other = t[1].charAt(i) == 'z' ? 'a' : (char) (t[1].charAt(i) + 1);
+                String word = t[1].substring(0, i) + other + t[1].substring(i + 1);
+                faultAt(t[0] + word + t[2], 1, t[0].length());
             }
         }
     }

@@ -101,8 +101,12 @@ final class TicketEdgesTest {
         DUE.is("the 31st elsewhere", x.hire(1, 1, 1), FULL);
         DUE.count("thirty", x, 2, 8800, 200, 0, 0, 30, 30, 0);
         DUE.is("29 run then", x.hour(0, 0, 0, 0), 29);
-        DUE.is("one more", x.hire(0, 1, 1), 30);
+        DUE.is("one more", x.hire(0, 2, 1), 30);
         DUE.is("30 run again", x.hire(0, 1, 1), FULL);
+        for (int i = 1; i < 30; i++) {
+            DUE.ticket("those that ran run on", x, i, i % 2, 1, 11, 120);
+        }
+        DUE.ticket("the new one", x, 30, 0, 2, 1, 20);
         DUE.is("the storm ends all", x.hour(0, 61, 0, 0), 0);
         x.hour(0, 0, 0, 0);
         for (int i = 31; i < 61; i++) {
@@ -314,6 +318,8 @@ final class TicketEdgesTest {
         DUE.is("'zone' last", x.shift(0, 1), STATE);
         Due.rules(x, "hold any;hold zone;rain 1 part 1;hold place;rent 1 part 1;");
         DUE.is("'place' last", x.shift(0, 1), STATE);
+        Due.rules(x, "hold zone;hold any;hold place;");
+        DUE.is("'place' behind 'any'", x.shift(0, 1), STATE);
         Due.rules(x, "hold place;rent 1 part 1;hold any;rain 1 part 1;");
         DUE.is("'any' last", x.shift(0, 1), 1);
     }
